@@ -597,7 +597,8 @@ public final class WindowCopies {
   // from the place on alone, not on the parts ahead of it, so that one pass from the end tells all.
   // A letter is a part with distance 0 and length 1.
   private static final class Plan {
-    private static final int NO_SAVING = Integer.MIN_VALUE;
+    // Only copies that save more than 0 are weighed: against them a place without a copy counts nothing.
+    private static final int NO_SAVING = 0;
 
     private final State state;
     private final Candidates candidates;
@@ -653,7 +654,8 @@ public final class WindowCopies {
     }
 
     // What costs the same is met in the order of preference: the letter, then the less distance, then
-    // the greater length; so only a lower cost takes the place of what was met before.
+    // the greater length; so only a lower cost takes the place of what was met before. A copy costs the
+    // same from each distance; so the lengths that a nearer candidate has need not be looked at again.
     private void planCheapest(int place) {
       int least = state.setting(LETTER_COST) + at(leastCosts, place + 1);
       planLetter(CHEAPEST, place);
@@ -667,6 +669,7 @@ public final class WindowCopies {
             planPart(CHEAPEST, place, candidates.distance(index), length);
           }
         }
+        shortest = Math.max(shortest, candidates.reach(index) + 1);
       }
       store(leastCosts, place, least);
     }
@@ -768,9 +771,10 @@ public final class WindowCopies {
     private int former = 0;
     private int latter = 0;
 
+    // Where no more letters are left than the longest stretch has so far, no longer one can begin.
     void findLongest(State state) {
       length = 0;
-      for (int later = 1; later < state.size(); later++) {
+      for (int later = 1; later + length < state.size(); later++) {
         for (int earlier = 0; earlier < later; earlier++) {
           int alike = state.likeLength(earlier, later);
           if (alike > length) {

@@ -6,6 +6,7 @@ public final class PartsTest {
     found();
     weighedOneLater();
     weighedTwoLater();
+    weighedAgain();
     weighedEqual();
     weighedSavesNothing();
     cheapest();
@@ -65,6 +66,22 @@ public final class PartsTest {
     dueParts(x, 1, "abcgcdefh(9,3)de");
   }
 
+  // What was weighed for a row that was before must not count any more.
+  private static void weighedAgain() {
+    WindowCopies x = Due.row("abcgbcdehabcde");
+    dueParts(x, 1, "abcgbcdeha(6,4)");
+    x.mend(12, 7);
+    dueParts(x, 1, "abcgbcdeh(9,3)he");
+    WindowCopies y = Due.row("abhabhab");
+    y.set(1, 2);
+    y.set(3, 10);
+    dueParts(y, 1, "abh(3,5)");
+    y.drop(3);
+    t.due("saves", y.found(3, 2), 2);
+    dueParts(y, 1, "abh(3,2)");
+    dueParts(y, 2, "abh(3,2)");
+  }
+
   private static void weighedEqual() {
     dueParts(Due.row("a".repeat(60)), 1, "a(1,20)(1,20)(1,19)");
     WindowCopies x = Due.row("abcgbcdhabcd");
@@ -89,6 +106,7 @@ public final class PartsTest {
     dueParts(x, 2, "abcgbcdeha(6,4)");
     WindowCopies parted = Due.row("abcdhefghabcdefgh");
     dueParts(parted, 2, "abcdhefgh(9,4)(8,4)");
+    dueParts(Due.row("abcdheabcfhgabcd"), 2, "abcdhe(6,3)fhg(12,4)");
     WindowCopies shorter = Due.row("abcdgdefhabcdef");
     dueParts(shorter, 2, "abcdgdefh(9,4)ef");
     shorter.set(3, 10);
@@ -221,6 +239,8 @@ public final class PartsTest {
     dueRepeat("aaaa", 3, 0, 1);
     dueRepeat("abgabhab", 2, 0, 3);
     dueRepeat("abcdcdab", 2, 2, 4);
+    dueRepeat("abgabhabc", 2, 0, 3);
+    dueRepeat("acbdacebdh", 2, 0, 4);
     dueRepeat("abcga", 1, 0, 4);
     dueRepeat("abab", 2, 0, 2);
     dueRepeat("ababa", 3, 0, 2);
@@ -236,6 +256,9 @@ public final class PartsTest {
     }
     x.set(0, 1);
     t.due("the window does not matter", x.repeat(0), 4);
+    x.mend(10, 7);
+    t.due("after a mend", x.repeat(0), 3);
+    t.due("former after a mend", x.repeat(1), 0);
   }
 
   private static void dueRepeat(String letters, int length, int former, int latter) {
@@ -259,6 +282,7 @@ public final class PartsTest {
     t.due("snapshot", x.count(5), 1);
     x.type('x');
     t.due("text of 1", x.count(4), 1);
+    t.due("a letter at the first place alone", Due.row("abb").count(1), 2);
     t.due("all letters", Due.row("hgfedcbaabcdefgh").count(1), 8);
     for (int what = 0; what < 5; what++) {
       x.set(what, what + 2);

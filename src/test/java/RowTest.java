@@ -131,6 +131,7 @@ public final class RowTest {
     }
     for (int wrong : new int[] {-1, 5, Due.LEAST, Due.MOST}) {
       t.due("set of " + wrong, x.set(wrong, 3), Due.INVALID);
+      t.due("set of " + wrong + " to -1", x.set(wrong, -1), Due.INVALID);
     }
     t.due("set the same", x.set(0, 60), 60);
     t.due("undo it", x.undo(), 3);

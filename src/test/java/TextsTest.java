@@ -93,6 +93,10 @@ public final class TextsTest {
     t.due("the text that was stays", x.count(4), 3);
     t.due("wrong way", x.write(3), Due.INVALID);
     t.due("way 1 tells letters", x.write(1), 49);
+    x = widest("cfgedbdgebghcdbaegddgghhedgefghhccdcfefdbebggdhegadafdhc");
+    dueText(x, 0, "cfgedbd(5,2)bghc(9,2)aegd(13,2)(11,2)h(21,2)(19,2)(27,2)(8,2)c(21,2)(35,2)"
+        + "(10,2)(26,2)(33,3)(27,2)(23,2)gada(14,2)(23,2)");
+    t.due("120 characters with a distance 9", x.count(4), 120);
     x = widest(letters);
     t.due("156 characters", x.write(0), Due.LIMIT);
     t.due("an empty text stays", x.count(4), 0);
