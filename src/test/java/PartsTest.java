@@ -11,6 +11,7 @@ public final class PartsTest {
     weighedSavesNothing();
     cheapest();
     cheapestOfSeveral();
+    fullRow();
     part();
     total();
     partAt();
@@ -132,6 +133,20 @@ public final class PartsTest {
     t.due("parting", near.parting(0, 2), 13);
     near.set(2, 1);
     dueParts(near, 0, "abcdhdefg(9,3)f(4,3)(11,4)");
+  }
+
+  // The last places of a row of 60 letters, told by a copy of the first ones.
+  private static void fullRow() {
+    WindowCopies x = Due.row("abc" + "h".repeat(54) + "abc");
+    x.set(0, 60);
+    WindowCopies y = Due.row("ab" + "h".repeat(56) + "ab");
+    y.set(0, 60);
+    y.set(1, 2);
+    y.set(3, 10);
+    for (int way = 0; way <= 2; way++) {
+      dueParts(x, way, "abch(1,20)(1,20)(1,13)(57,3)");
+      dueParts(y, way, "abh(1,20)(1,20)(1,15)(58,2)");
+    }
   }
 
   private static void part() {
