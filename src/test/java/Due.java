@@ -41,7 +41,8 @@ final class Due {
 
   static String letters(WindowCopies x) {
     StringBuilder letters = new StringBuilder();
-    for (int place = 0; place < x.count(0); place++) {
+    int size = x.count(0);
+    for (int place = 0; place < size; place++) {
       letters.append((char) ('a' + x.letter(place)));
     }
     return letters.toString();
@@ -52,24 +53,47 @@ final class Due {
     due("row " + got + ", due " + want, got.equals(want) ? 1 : 0, 1);
   }
 
+  // The parts as a text: a letter, or a copy's distance and length.
+  void dueParts(WindowCopies x, int way, String want) {
+    StringBuilder got = new StringBuilder();
+    int parts = x.total(way, 0);
+    int place = 0;
+    for (int index = 0; index < parts; index++) {
+      due("part " + index + " begins", x.part(way, index, 0), place);
+      int distance = x.part(way, index, 2);
+      int length = x.part(way, index, 1);
+      if (distance == 0) {
+        got.append((char) ('a' + x.letter(place)));
+      } else {
+        got.append("(" + distance + "," + length + ")");
+      }
+      place += length;
+    }
+    due("parts end", place, x.count(0));
+    due("parts " + got + ", due " + want, got.toString().equals(want) ? 1 : 0, 1);
+  }
+
   static void type(WindowCopies x, String text) {
     for (char character : text.toCharArray()) {
       x.type(character);
     }
   }
 
-  // A new text in place of the one that was.
+  // With the settings and the row of x, but an object of its own: one object serves 512 calls.
   void dueFault(WindowCopies x, String text, int place, int reason) {
-    x.clearText();
-    type(x, text);
-    due("fault(0) of " + text, x.fault(0), place);
-    due("fault(1) of " + text, x.fault(1), reason);
+    WindowCopies y = row(letters(x));
+    for (int what = 0; what < 5; what++) {
+      y.set(what, x.count(10 + what));
+    }
+    type(y, text);
+    due("fault(0) of " + text, y.fault(0), place);
+    due("fault(1) of " + text, y.fault(1), reason);
     if (reason != NONE) {
-      String before = letters(x);
-      int states = x.count(3);
-      due("read() of " + text, x.read(), IMPOSSIBLE);
-      dueRow(x, before);
-      due("states after read() of " + text, x.count(3), states);
+      String before = letters(y);
+      int states = y.count(3);
+      due("read() of " + text, y.read(), IMPOSSIBLE);
+      dueRow(y, before);
+      due("states after read() of " + text, y.count(3), states);
     }
   }
 }

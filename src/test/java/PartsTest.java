@@ -22,97 +22,79 @@ public final class PartsTest {
     t.end();
   }
 
-  // The parts as a text with a number for a letter's distance, as the calls of part tell them.
-  private static void dueParts(WindowCopies x, int way, String want) {
-    StringBuilder got = new StringBuilder();
-    int place = 0;
-    for (int index = 0; index < x.total(way, 0); index++) {
-      t.due("part " + index + " begins", x.part(way, index, 0), place);
-      int distance = x.part(way, index, 2);
-      if (distance == 0) {
-        got.append((char) ('a' + x.letter(place)));
-      } else {
-        got.append("(" + distance + "," + x.part(way, index, 1) + ")");
-      }
-      place += x.part(way, index, 1);
-    }
-    t.due("parts end", place, x.count(0));
-    t.due("parts " + got + ", due " + want, got.toString().equals(want) ? 1 : 0, 1);
-  }
-
   private static void found() {
     WindowCopies x = Due.row("abcgbcdehabcde");
-    dueParts(x, 0, "abcgbcdeh(9,3)de");
+    t.dueParts(x, 0, "abcgbcdeh(9,3)de");
     x.set(1, 2);
-    dueParts(x, 0, "abcg(3,2)deh(9,3)(6,2)");
+    t.dueParts(x, 0, "abcg(3,2)deh(9,3)(6,2)");
     x.set(4, 60);
-    dueParts(x, 0, "abcg(3,2)deh(9,3)(6,2)");
+    t.dueParts(x, 0, "abcg(3,2)deh(9,3)(6,2)");
     x.set(0, 8);
-    dueParts(x, 0, "abcg(3,2)deha(6,4)");
-    dueParts(Due.row("a".repeat(60)), 0, "a(1,20)(1,20)(1,19)");
+    t.dueParts(x, 0, "abcg(3,2)deha(6,4)");
+    t.dueParts(Due.row("a".repeat(60)), 0, "a(1,20)(1,20)(1,19)");
   }
 
   private static void weighedOneLater() {
     WindowCopies x = Due.row("abcgbcdehabcde");
-    dueParts(x, 1, "abcgbcdeha(6,4)");
+    t.dueParts(x, 1, "abcgbcdeha(6,4)");
     t.due("total 0", x.total(0, 2), 106);
     t.due("total 1", x.total(1, 2), 98);
   }
 
   private static void weighedTwoLater() {
     WindowCopies x = Due.row("abcgcdefhabcdef");
-    dueParts(x, 0, "abcgcdefh(9,3)(7,3)");
-    dueParts(x, 1, "abcgcdefhab(7,4)");
+    t.dueParts(x, 0, "abcgcdefh(9,3)(7,3)");
+    t.dueParts(x, 1, "abcgcdefhab(7,4)");
     x.drop(1);
-    dueParts(x, 1, "abcgcdefh(9,3)de");
+    t.dueParts(x, 1, "abcgcdefh(9,3)de");
   }
 
   // What was weighed for a row that was before must not count any more.
   private static void weighedAgain() {
     WindowCopies x = Due.row("abcgbcdehabcde");
-    dueParts(x, 1, "abcgbcdeha(6,4)");
+    t.dueParts(x, 1, "abcgbcdeha(6,4)");
     x.mend(12, 7);
-    dueParts(x, 1, "abcgbcdeh(9,3)he");
+    t.dueParts(x, 1, "abcgbcdeh(9,3)he");
     WindowCopies y = Due.row("abhabhab");
     y.set(1, 2);
     y.set(3, 10);
-    dueParts(y, 1, "abh(3,5)");
+    t.dueParts(y, 1, "abh(3,5)");
     y.drop(3);
     t.due("saves", y.found(3, 2), 2);
-    dueParts(y, 1, "abh(3,2)");
-    dueParts(y, 2, "abh(3,2)");
+    t.dueParts(y, 1, "abh(3,2)");
+    t.dueParts(y, 2, "abh(3,2)");
   }
 
   private static void weighedEqual() {
-    dueParts(Due.row("a".repeat(60)), 1, "a(1,20)(1,20)(1,19)");
+    t.dueParts(Due.row("a".repeat(60)), 1, "a(1,20)(1,20)(1,19)");
     WindowCopies x = Due.row("abcgbcdhabcd");
     t.due("saves here", x.found(8, 2), 6);
     t.due("saves as much at the next place", x.found(9, 2), 6);
-    dueParts(x, 1, "abcgbcdh(8,3)d");
+    t.dueParts(x, 1, "abcgbcdh(8,3)d");
   }
 
   private static void weighedSavesNothing() {
     WindowCopies x = Due.row("abcabc");
     x.set(3, 6);
     t.due("saves 0", x.found(3, 2), 0);
-    dueParts(x, 1, "abcabc");
-    dueParts(x, 0, "abc(3,3)");
+    t.dueParts(x, 1, "abcabc");
+    t.dueParts(x, 0, "abc(3,3)");
     x.set(4, 17);
     t.due("saves 1", x.found(3, 2), 1);
-    dueParts(x, 1, "abc(3,3)");
+    t.dueParts(x, 1, "abc(3,3)");
   }
 
   private static void cheapest() {
     WindowCopies x = Due.row("abcgbcdehabcde");
-    dueParts(x, 2, "abcgbcdeha(6,4)");
+    t.dueParts(x, 2, "abcgbcdeha(6,4)");
     WindowCopies parted = Due.row("abcdhefghabcdefgh");
-    dueParts(parted, 2, "abcdhefgh(9,4)(8,4)");
-    dueParts(Due.row("abcdheabcfhgabcd"), 2, "abcdhe(6,3)fhg(12,4)");
+    t.dueParts(parted, 2, "abcdhefgh(9,4)(8,4)");
+    t.dueParts(Due.row("abcdheabcfhgabcd"), 2, "abcdhe(6,3)fhg(12,4)");
     WindowCopies shorter = Due.row("abcdgdefhabcdef");
-    dueParts(shorter, 2, "abcdgdefh(9,4)ef");
+    t.dueParts(shorter, 2, "abcdgdefh(9,4)ef");
     shorter.set(3, 10);
-    dueParts(shorter, 0, "abcdgdefh(9,4)ef");
-    dueParts(shorter, 2, "abcdgdefh(9,3)(7,3)");
+    t.dueParts(shorter, 0, "abcdgdefh(9,4)ef");
+    t.dueParts(shorter, 2, "abcdgdefh(9,3)(7,3)");
     x.set(2, 1);
     x.set(0, 60);
     t.due("only the first candidate", x.total(2, 2), 98);
@@ -121,18 +103,18 @@ public final class PartsTest {
   private static void cheapestOfSeveral() {
     WindowCopies x = Due.row("abcabc");
     x.set(3, 6);
-    dueParts(x, 2, "abcabc");
+    t.dueParts(x, 2, "abcabc");
     // A letter and then a copy costs the same as a copy and then a letter.
-    dueParts(Due.row("a".repeat(22)), 2, "aa(1,20)");
+    t.dueParts(Due.row("a".repeat(22)), 2, "aa(1,20)");
     // Two copies cost the same whatever their lengths: the first is as long as can be, not the second.
-    dueParts(Due.row("a".repeat(26)), 2, "a(1,20)(1,5)");
+    t.dueParts(Due.row("a".repeat(26)), 2, "a(1,20)(1,5)");
     // Both copies of the last letters cost the same: the first is the near one, though the far one is longer.
     WindowCopies near = Due.row("abcdhdefgabcfabcdefg");
-    dueParts(near, 0, "abcdhdefg(9,3)f(13,4)(11,3)");
-    dueParts(near, 2, "abcdhdefg(9,3)f(4,3)(11,4)");
+    t.dueParts(near, 0, "abcdhdefg(9,3)f(13,4)(11,3)");
+    t.dueParts(near, 2, "abcdhdefg(9,3)f(4,3)(11,4)");
     t.due("parting", near.parting(0, 2), 13);
     near.set(2, 1);
-    dueParts(near, 0, "abcdhdefg(9,3)f(4,3)(11,4)");
+    t.dueParts(near, 0, "abcdhdefg(9,3)f(4,3)(11,4)");
   }
 
   // The last places of a row of 60 letters, told by a copy of the first ones.
@@ -144,8 +126,8 @@ public final class PartsTest {
     y.set(1, 2);
     y.set(3, 10);
     for (int way = 0; way <= 2; way++) {
-      dueParts(x, way, "abch(1,20)(1,20)(1,13)(57,3)");
-      dueParts(y, way, "abh(1,20)(1,20)(1,15)(58,2)");
+      t.dueParts(x, way, "abch(1,20)(1,20)(1,13)(57,3)");
+      t.dueParts(y, way, "abh(1,20)(1,20)(1,15)(58,2)");
     }
   }
 
