@@ -14,6 +14,7 @@ public final class PartsEdgesTest {
     weighedAgainstTheOneBehind();
     weighedAgainstNoThirdPlace();
     weighedAtTheEndOfTheRow();
+    weighedAgainstWhatIsNoMore();
     weighedAgainstWhatIsNotTaken();
     cheapestFromTheLeastLength();
     cheapestUpToTheReach();
@@ -174,14 +175,26 @@ public final class PartsEdgesTest {
     full.set(1, 2);
     full.set(3, 10);
     t.dueParts(full, 1, "abh(1,20)(1,20)(1,15)(58,2)");
-    // What stood behind the end before a drop is no place any more.
-    WindowCopies dropped = Due.row("abchcdefhabcdef");
-    dropped.drop(1);
-    t.dueParts(dropped, 1, "abchcdefh(9,3)de");
-    dropped.drop(2);
-    t.dueParts(dropped, 1, "abchcdefh(9,3)");
-    dropped.drop(1);
-    t.dueParts(dropped, 1, "abchcdefhab");
+    t.dueParts(full, 2, "abh(1,20)(1,20)(1,15)(58,2)");
+  }
+
+  // What stood behind the end before a drop is no place any more, and what a mend took away no copy.
+  private static void weighedAgainstWhatIsNoMore() {
+    WindowCopies dropped = Due.row("abhabhab");
+    dropped.set(1, 2);
+    dropped.set(3, 10);
+    t.due("saves at the place that goes", dropped.found(5, 2), 12);
+    t.dueParts(dropped, 1, "abh(3,5)");
+    dropped.drop(3);
+    t.due("saves here", dropped.found(3, 2), 2);
+    t.dueParts(dropped, 1, "abh(3,2)");
+    WindowCopies mended = Due.row("abchcdefhabcdef");
+    t.dueParts(mended, 1, "abchcdefhab(7,4)");
+    mended.mend(13, 7);
+    t.dueParts(mended, 1, "abchcdefh(9,3)dhf");
+    mended.undo();
+    mended.drop(1);
+    t.dueParts(mended, 1, "abchcdefh(9,3)de");
   }
 
   // The copy found at a later place counts, whether the way takes it or not.
@@ -329,6 +342,10 @@ public final class PartsEdgesTest {
     t.due("at most 20", most.total(0, 5), 20);
     t.due("letters told by copies", most.total(0, 4), 59);
     t.due("copies", most.total(0, 1), 3);
+    WindowCopies noMore = Due.row("abcabc");
+    t.due("one", noMore.total(0, 5), 3);
+    noMore.mend(4, 7);
+    t.due("none any more", noMore.total(0, 5), 0);
   }
 
   private static void totalOutOfRange() {

@@ -233,7 +233,9 @@ public final class RowEdgesTest {
     WindowCopies x = new WindowCopies();
     for (int wrong : new int[] {-1, 5, 10, 14, Due.LEAST, Due.MOST}) {
       t.due("set of " + wrong, x.set(wrong, 3), Due.INVALID);
-      t.due("set of " + wrong + " to nothing", x.set(wrong, Due.LEAST), Due.INVALID);
+      for (int value : new int[] {-1, 0, 1, 20, 60, Due.LEAST, Due.MOST}) {
+        t.due("set of " + wrong + " to " + value, x.set(wrong, value), Due.INVALID);
+      }
     }
     t.due("no change", x.count(3), 0);
   }

@@ -456,6 +456,10 @@ public final class TextsEdgesTest {
         + "(17,2)(10,2)(35,2)(31,2)(17,2)(32,2)(18,2)(19,2)");
     t.due("120", x.count(4), 120);
     t.due("the text is full", x.type('a'), Due.LIMIT);
+    x = widest("cfgedbdgebghcdbaegddgghhedgefghhccdcfefdbebggdhegadafdhc");
+    dueWrite(x, 0, "cfgedbd(5,2)bghc(9,2)aegd(13,2)(11,2)h(21,2)(19,2)(27,2)(8,2)c(21,2)(35,2)"
+        + "(10,2)(26,2)(33,3)(27,2)(23,2)gada(14,2)(23,2)");
+    t.due("120 with a distance of 9", x.count(4), 120);
   }
 
   // write: "LIMIT_REACHED if it would have more than 120 characters"
