@@ -225,6 +225,14 @@ public final class PartsEdgesTest {
     t.dueParts(parted, 2, "abcdgdefh(9,4)ef");
     parted.set(1, 5);
     t.dueParts(parted, 2, "abcdgdefhabcdef");
+    // A nearer candidate with a shorter reach does not let in the lengths between.
+    WindowCopies near = Due.row("abcdgabhabcd");
+    near.set(1, 4);
+    t.dueParts(near, 2, "abcdgabh(8,4)");
+    near.set(1, 5);
+    t.due("the near one's reach", near.candidate(8, 0, 1), 2);
+    t.due("the far one's reach", near.candidate(8, 1, 1), 4);
+    t.dueParts(near, 2, "abcdgabhabcd");
   }
 
   // "to their reach"

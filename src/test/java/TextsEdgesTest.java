@@ -14,6 +14,7 @@ public final class TextsEdgesTest {
     eachCharacterAtEachPlace();
     charactersBehindAnEarlierPart();
     endsTooEarly();
+    endsTooEarlyWhereALongerOneWas();
     emptyTextTellsAnEmptyRow();
     noZeroAheadOfOthers();
     numbersOfTwoDigitsAtMost();
@@ -165,6 +166,26 @@ public final class TextsEdgesTest {
     t.dueFault(full, text + "(1,", 120, 1);
     t.dueFault(full, text + "(99", 120, 1);
     t.dueFault(full, text.substring(1) + "(1,2", 120, 1);
+  }
+
+  // A longer text that was there before leaves nothing behind the end of the one that is.
+  private static void endsTooEarlyWhereALongerOneWas() {
+    String whole = "a(11,12)";
+    for (int end = 2; end < whole.length(); end++) {
+      WindowCopies x = new WindowCopies();
+      Due.type(x, whole);
+      x.clearText();
+      Due.type(x, whole.substring(0, end));
+      t.due("place of the fault after clearText, " + end, x.fault(0), end);
+      t.due("reason of the fault after clearText, " + end, x.fault(1), 1);
+      t.due("read after clearText, " + end, x.read(), Due.IMPOSSIBLE);
+    }
+    WindowCopies written = Due.row("ab");
+    Due.type(written, "aa(1,3)");
+    t.due("write", written.write(0), 2);
+    written.type('(');
+    t.due("place of the fault after write", written.fault(0), 3);
+    t.due("reason of the fault after write", written.fault(1), 1);
   }
 
   // "an empty text tells an empty row"
