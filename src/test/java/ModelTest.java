@@ -56,6 +56,9 @@ public final class ModelTest {
   }
 
   private void runAll() {
+    if (random.nextInt(3) == 0) {
+      putRowOfLongCopies();
+    }
     while (calls.size() < CALLS && asDue) {
       int kind = random.nextInt(100);
       if (kind < 45) {
@@ -128,6 +131,20 @@ public final class ModelTest {
       return;
     }
     due("put(" + letter + ")", x.put(letter), model.put(letter));
+  }
+
+  // A stretch that comes again and again, here and there with another letter: full rows, copies that
+  // reach into themselves, reaches above 20, several candidates that are worth the same.
+  private void putRowOfLongCopies() {
+    int stretch = 1 + random.nextInt(12);
+    int mended = 3 + random.nextInt(30);
+    for (int i = random.nextInt(5); i > 0; i--) {
+      set();
+    }
+    for (int i = 20 + random.nextInt(41); i > 0; i--) {
+      int place = model.count(0) - stretch;
+      put(place < 0 || random.nextInt(mended) == 0 ? random.nextInt(letters) : model.letter(place));
+    }
   }
 
   private void set() {
